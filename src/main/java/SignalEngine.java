@@ -762,39 +762,28 @@ public final class SignalEngine {
                     return draft.exit(takeUse(traps, 0), line);
                 case AWAIT:
                     return draft.await(takeEither(), line);
-                default:
-                    return takeLong(word, line);
-            }
-        }
-
-        private Node takeLong(Token word, int line) {
-            if (word == Token.WEAK) {
-                take(Token.ABORT);
-            }
-            Node made = takeInner(word, line);
-            take(word == Token.OPEN ? Token.CLOSE : Token.END);
-            return made;
-        }
-
-        private Node takeInner(Token word, int line) {
-            switch (word) {
                 case PRESENT:
-                    return takePresent(line);
+                    return closedBy(Token.END, takePresent(line));
                 case LOOP:
-                    return takeLoop(line);
+                    return closedBy(Token.END, takeLoop(line));
                 case TRAP:
-                    return takeTrap(line);
+                    return closedBy(Token.END, takeTrap(line));
                 case SIGNAL:
-                    return takeLocals(line);
+                    return closedBy(Token.END, takeLocals(line));
                 case EVERY:
-                    return takeEvery(line);
+                    return closedBy(Token.END, takeEvery(line));
                 case SUSPEND:
                 case ABORT:
                 case WEAK:
-                    return takeGuarded(word, line);
+                    return closedBy(Token.END, takeGuarded(word, line));
                 default:
-                    return takeBody();
+                    return closedBy(Token.CLOSE, takeBody());
             }
+        }
+
+        private Node closedBy(Token due, Node made) {
+            take(due);
+            return made;
         }
 
         private Node takePresent(int line) {
@@ -844,6 +833,9 @@ public final class SignalEngine {
         }
 
         private Node takeGuarded(Token word, int line) {
+            if (word == Token.WEAK) {
+                take(Token.ABORT);
+            }
             Node body = takeBody();
             take(Token.WHEN);
             int test = takeEither();
@@ -1295,6 +1287,10 @@ public final class SignalEngine {
      * 0 at the start and when it resumes, else the weight of the loop or sequence that begins it.
      */
     private static final class Reactor {
+        private static final int[] NEGATED = {1, 0, 2};
+        private static final int[] LESSER = {0, 0, 0, 0, 1, 2, 0, 2, 2};
+        private static final int[] GREATER = {0, 1, 2, 1, 1, 1, 2, 1, 2};
+
         private final Program program;
         private final int[] known;
         private final int[] emitted;
@@ -1308,9 +1304,11 @@ public final class SignalEngine {
         private final int[] heldBefore;
         private final boolean[] chosen;
         private int round;
-        private int begun;
         private boolean changed;
         private boolean doubtful;
+        private boolean starting;
+        private int startedBehind;
+        private int begun;
 
         Reactor(Program program) {
             this.program = program;
@@ -1372,14 +1370,28 @@ public final class SignalEngine {
             }
         }
 
+        /**
+         * Goes down and up the tree without recursion, since rows may make it deep. A node that
+         * resumes may start one within it: that one is gone through by starting, then it resumes.
+         */
         private void goThrough(boolean resumes) {
             clear(0);
+            starting = !resumes;
+            startedBehind = NONE;
             begun = 0;
-            sure[0] = true;
-            if (resumes) {
-                resume();
-            } else {
-                start(0);
+            int n = 0;
+            int child = within(0, true);
+            for (int step = 0; step < 4 * program.weights; step++) {
+                if (child != NONE) {
+                    n = child;
+                    child = starting ? beginStart(n) : beginResume(n);
+                } else if (n == 0) {
+                    return;
+                } else {
+                    int done = n;
+                    n = program.parent[n];
+                    child = starting ? goOnStart(n, done) : goOnResume(n, done);
+                }
             }
         }
 
@@ -1425,73 +1437,32 @@ public final class SignalEngine {
             return child;
         }
 
-        /** Starts a node and all within it; a node is come back to once for each one within it. */
-        private void start(int root) {
-            int n = root;
-            int child = beginStart(n);
-            for (int step = 0; step < 4 * program.kind.length; step++) {
-                if (child != NONE) {
-                    n = child;
-                    child = beginStart(n);
-                } else if (n == root) {
-                    return;
-                } else {
-                    int done = n;
-                    n = program.parent[n];
-                    child = goOnStart(n, done);
-                }
-            }
-        }
-
-        /** Resumes the whole program, which holds some pause. */
-        private void resume() {
-            int n = 0;
-            int child = beginResume(n);
-            for (int step = 0; step < 4 * program.kind.length; step++) {
-                if (child != NONE) {
-                    n = child;
-                    child = beginResume(n);
-                } else if (n == 0) {
-                    return;
-                } else {
-                    int done = n;
-                    n = program.parent[n];
-                    child = goOnResume(n, done);
-                }
-            }
-        }
-
         /** What is started first within a node; NONE if its answer is already there. */
         private int beginStart(int n) {
+            int number = program.number[n];
             switch (program.kind[n]) {
                 case NOTHING:
                     answer(n, 1, 0);
                     return NONE;
                 case PAUSE:
                     answer(n, 2, 1);
-                    chosen[program.number[n]] = sure[n];
+                    chosen[number] = sure[n];
                     return NONE;
                 case EMIT:
-                    emit(placeNow[program.number[n]], sure[n]);
                     answer(n, 1, 0);
+                    emit(placeNow[number], sure[n]);
                     return NONE;
                 case EXIT:
-                    answer(n, 1 << program.number[n], program.number[n]);
+                    answer(n, 1 << number, number);
                     return NONE;
                 case PRESENT:
                     return beginPresent(n);
                 case LOCAL:
-                    placeNow[program.number[n]] = placeFrom[program.number[n]] + begun;
+                    placeNow[number] = placeFrom[number] + begun;
                     return within(program.first[n], sure[n]);
                 default:
                     return within(program.first[n], sure[n]);
             }
-        }
-
-        private int beginPresent(int n) {
-            test[n] = valueOf(program.number[n]);
-            int taken = test[n] == FALSE ? program.second[n] : program.first[n];
-            return within(taken, sure[n] && test[n] != UNKNOWN);
         }
 
         private void emit(int place, boolean forSure) {
@@ -1502,18 +1473,28 @@ public final class SignalEngine {
             }
         }
 
+        private int beginPresent(int n) {
+            test[n] = valueOf(program.number[n]);
+            int taken = test[n] == FALSE ? program.second[n] : program.first[n];
+            return within(taken, sure[n] && test[n] != UNKNOWN);
+        }
+
         /** What is started next within a node, one of which is done; NONE if it has its answer. */
         private int goOnStart(int n, int done) {
+            if (done == startedBehind) {
+                return comeBack(n, done);
+            }
             int other = program.second[n];
             switch (program.kind[n]) {
                 case PRESENT:
                     return goOnPresent(n, done);
                 case SEQUENCE:
-                    if (done != other && (can[done] & 1) != 0) {
-                        return within(other, must[done] == 0);
+                    if (done == other) {
+                        putBehind(n, done);
+                        return NONE;
                     }
-                    closeSequence(n, done);
-                    return NONE;
+                    answer(n, can[done], must[done]);
+                    return (can[n] & 1) == 0 ? NONE : within(other, must[n] == 0);
                 case BOTH:
                     if (done != other) {
                         return within(other, sure[n]);
@@ -1521,7 +1502,7 @@ public final class SignalEngine {
                     closeBoth(n);
                     return NONE;
                 default:
-                    closeSingle(n);
+                    closeSingle(n, done);
                     return NONE;
             }
         }
@@ -1538,13 +1519,9 @@ public final class SignalEngine {
             return NONE;
         }
 
-        private void closeSequence(int n, int done) {
-            int a = program.first[n];
-            if (done == a) {
-                answer(n, can[a], must[a]);
-            } else {
-                answer(n, (can[a] & ~1) | can[done], must[a] == 0 ? must[done] : must[a]);
-            }
+        /** Where a node could end with 0, what it started then comes in place of this code. */
+        private void putBehind(int n, int started) {
+            answer(n, (can[n] & ~1) | can[started], must[n] == 0 ? must[started] : must[n]);
         }
 
         private void closeBoth(int n) {
@@ -1554,27 +1531,20 @@ public final class SignalEngine {
             answer(n, greaterOfPairs(can[a], can[b]), told ? Math.max(must[a], must[b]) : NONE);
         }
 
-        private void closeSingle(int n) {
-            int a = program.first[n];
-            if (program.kind[n] == TRAP) {
-                closeTrap(n);
-                return;
-            }
+        private void closeSingle(int n, int done) {
+            can[n] = can[done];
+            must[n] = must[done];
             if (program.kind[n] == LOCAL) {
                 int place = placeNow[program.number[n]];
                 settleAbsent(place);
                 doubtful = doubtful || (sure[n] && known[place] == UNKNOWN);
+            } else if (program.kind[n] == TRAP) {
+                can[n] = withoutTrap(can[n]);
+                if (must[n] >= 2) {
+                    clear(n);
+                    must[n] = must[n] == 2 ? 0 : must[n] - 1;
+                }
             }
-            answer(n, can[a], must[a]);
-        }
-
-        private void closeTrap(int n) {
-            int code = must[program.first[n]];
-            if (code >= 2) {
-                clear(n);
-                code = code == 2 ? 0 : code - 1;
-            }
-            answer(n, withoutTrap(can[program.first[n]]), code);
         }
 
         /** What resumes first within a node that holds some pause; NONE if its answer is there. */
@@ -1586,9 +1556,12 @@ public final class SignalEngine {
                     return NONE;
                 case SUSPEND:
                     return beginSuspend(n);
+                case BOTH:
+                    answerEnded(a);
+                    answerEnded(program.second[n]);
+                    return within(isHeld(a) ? a : program.second[n], sure[n]);
                 case PRESENT:
                 case SEQUENCE:
-                case BOTH:
                     return within(isHeld(a) ? a : program.second[n], sure[n]);
                 case LOCAL:
                     placeNow[program.number[n]] = placeFrom[program.number[n]];
@@ -1596,6 +1569,12 @@ public final class SignalEngine {
                 default:
                     return within(a, sure[n]);
             }
+        }
+
+        /** One of both without a held pause has ended; the other one gets its answer later. */
+        private void answerEnded(int n) {
+            can[n] = 1;
+            must[n] = 0;
         }
 
         private int beginSuspend(int n) {
@@ -1610,108 +1589,71 @@ public final class SignalEngine {
             return NONE;
         }
 
-        /** What resumes next within a node, one of which is done; NONE if it has its answer. */
+        /** What comes next within a node that resumes, one of which is done; NONE if nothing does. */
         private int goOnResume(int n, int done) {
+            int other = program.second[n];
             switch (program.kind[n]) {
-                case PRESENT:
-                    answer(n, can[done], must[done]);
-                    return NONE;
                 case SEQUENCE:
-                    goOnSequence(n, done);
-                    return NONE;
+                    answer(n, can[done], must[done]);
+                    return done == other ? NONE : startBehind(n, other);
                 case LOOP:
-                    goOnLoop(n);
-                    return NONE;
+                    answer(n, can[done], must[done]);
+                    return startBehind(n, done);
                 case BOTH:
-                    return goOnBoth(n, done);
+                    if (done != other && isHeld(other)) {
+                        return within(other, sure[n]);
+                    }
+                    closeBoth(n);
+                    return NONE;
                 case SUSPEND:
-                    boolean open = test[n] == UNKNOWN;
-                    answer(n, open ? can[done] | 2 : can[done], must[done]);
+                    answer(n, can[done] | (test[n] == UNKNOWN ? 2 : 0), must[done]);
                     return NONE;
                 default:
-                    closeSingle(n);
+                    closeSingle(n, done);
                     return NONE;
             }
         }
 
-        private void goOnSequence(int n, int done) {
-            int other = program.second[n];
-            if (done == other) {
-                answer(n, can[done], must[done]);
-            } else if ((can[done] & 1) == 0) {
-                closeSequence(n, done);
-            } else {
-                startFrom(n, within(other, must[done] == 0));
-                closeSequence(n, other);
+        /** Starts one within a node whose resumed part can end; its local signals are new ones. */
+        private int startBehind(int n, int child) {
+            if ((can[n] & 1) == 0) {
+                return NONE;
             }
-        }
-
-        private void goOnLoop(int n) {
-            int a = program.first[n];
-            int codes = can[a];
-            int code = must[a];
-            if ((codes & 1) != 0) {
-                startFrom(n, within(a, code == 0));
-                codes = (codes & ~1) | can[a];
-                code = code == 0 ? must[a] : code;
-            }
-            answer(n, codes, code);
-        }
-
-        private void startFrom(int n, int child) {
+            starting = true;
+            startedBehind = child;
             begun = program.weight[n];
-            start(child);
+            return within(child, must[n] == 0);
+        }
+
+        private int comeBack(int n, int done) {
+            starting = false;
+            startedBehind = NONE;
             begun = 0;
-        }
-
-        private int goOnBoth(int n, int done) {
-            int a = program.first[n];
-            int b = program.second[n];
-            if (done == a && isHeld(b)) {
-                return within(b, sure[n]);
-            }
-            if (!isHeld(a)) {
-                answerEnded(a, sure[n]);
-            }
-            if (!isHeld(b)) {
-                answerEnded(b, sure[n]);
-            }
-            closeBoth(n);
+            putBehind(n, done);
             return NONE;
-        }
-
-        private void answerEnded(int n, boolean forSure) {
-            answer(within(n, forSure), 1, 0);
         }
 
         /** The value of a test, whose pieces stand each ahead of those within it. */
         private int valueOf(int root) {
             Pieces pieces = program.pieces;
             for (int i = root + pieces.extent[root] - 1; i >= root; i--) {
-                truth[i] = valueOfPiece(pieces.kind[i], pieces.first[i], pieces.second[i]);
+                int a = pieces.first[i];
+                switch (pieces.kind[i]) {
+                    case SIGNAL:
+                        truth[i] = known[placeNow[a]];
+                        break;
+                    case NOT:
+                        truth[i] = NEGATED[truth[a]];
+                        break;
+                    case AND:
+                        truth[i] = LESSER[3 * truth[a] + truth[pieces.second[i]]];
+                        break;
+                    default:
+                        truth[i] = GREATER[3 * truth[a] + truth[pieces.second[i]]];
+                        break;
+                }
             }
             return truth[root];
-        }
-
-        private int valueOfPiece(int kind, int a, int b) {
-            switch (kind) {
-                case SIGNAL:
-                    return known[placeNow[a]];
-                case NOT:
-                    return truth[a] == UNKNOWN ? UNKNOWN : 1 - truth[a];
-                case AND:
-                    return decided(truth[a], truth[b], FALSE);
-                default:
-                    return decided(truth[a], truth[b], TRUE);
-            }
-        }
-
-        /** The value of two joined ones, where one that is strong decides alone. */
-        private static int decided(int a, int b, int strong) {
-            if (a == strong || b == strong) {
-                return strong;
-            }
-            return a == UNKNOWN || b == UNKNOWN ? UNKNOWN : 1 - strong;
         }
     }
 
@@ -1912,8 +1854,7 @@ public final class SignalEngine {
         private static final int FIRST_CHOICE = 4096;
         private static final int HEADS = 4096;
 
-        private final long[] truths = new long[CHOICES];
-        private final int[] layer = new int[CHOICES];
+        private final int[] layer = new int[FIRST_CHOICE];
         private final int[] heads = new int[HEADS];
         private final int[] atBit = new int[BITS];
         private final int[] roots = new int[64];
@@ -1923,6 +1864,9 @@ public final class SignalEngine {
         private int[] chain = new int[256];
         private int[] seen = new int[256];
         private int made;
+        private int inputs;
+        private int outputs;
+        private int pauses;
         private int functions;
         private int looks;
 
@@ -1931,57 +1875,67 @@ public final class SignalEngine {
         }
 
         void build(Program program, Atlas atlas) {
-            Arrays.fill(truths, 0L);
             Arrays.fill(heads, NONE);
             Arrays.fill(atBit, 0);
             Arrays.fill(seen, 0);
             looks = 0;
             made = 2;
-            functions = program.outputs + program.pauses + 1;
-            for (int i = 0; i < atlas.reached; i++) {
-                takeState(atlas.order[i], program, atlas);
-            }
+            inputs = program.inputs;
+            outputs = program.outputs;
+            pauses = program.pauses;
+            functions = outputs + pauses + 1;
             for (int i = 0; i < functions; i++) {
-                roots[i] = fold(i);
+                int later = fold(i, false, atlas);
+                int first = fold(i, true, atlas);
+                roots[i] = multiplexer(BITS - 1, later, first);
             }
         }
 
-        private void takeState(int state, Program program, Atlas atlas) {
-            int choice = state == FIRST_STATE ? FIRST_CHOICE : turned(state, 11);
-            for (int inputs = 0; inputs < atlas.options; inputs++) {
-                int cell = Atlas.cell(state, inputs);
-                if (atlas.follows[cell] != NONE) {
-                    long truth = truthsOf(atlas.follows[cell], program);
-                    truths[choice | turned(inputs, 3)] = truth | atlas.emits[cell];
+        /**
+         * One half of a function, by the highest bit: that of the first state, which has no pauses,
+         * or of all others. Truths are joined bit by bit, from the lowest one on; behind a bit of a
+         * pause or an input that there is not, all is false.
+         */
+        private int fold(int function, boolean first, Atlas atlas) {
+            int ofPauses = first ? 0 : pauses;
+            int width = 1 << (ofPauses + inputs);
+            for (int j = 0; j < width; j++) {
+                int state = first ? FIRST_STATE : turned(j >>> inputs, ofPauses);
+                layer[j] = truth(function, state, turned(j, inputs), atlas);
+            }
+            for (int b = 0; b < BITS - 1; b++) {
+                boolean there = b < 4 ? 3 - b < inputs : 11 - b < ofPauses;
+                width = there ? width / 2 : width;
+                for (int j = 0; j < width; j++) {
+                    layer[j] = there ? multiplexer(b, layer[2 * j], layer[2 * j + 1])
+                            : multiplexer(b, layer[j], 0);
                 }
             }
+            return layer[0];
         }
 
-        private static long truthsOf(int then, Program program) {
-            int ended = program.outputs + program.pauses;
-            return then == END_STATE ? 1L << ended : (long) then << program.outputs;
-        }
-
-        /** The bits of a number from the highest place downwards: bit k comes to top - k. */
-        private static int turned(int bits, int top) {
+        /** The lowest bits of a number the other way round. */
+        private static int turned(int number, int bits) {
             int turned = 0;
-            for (int k = 0; k <= top && k < 8; k++) {
-                turned |= ((bits >>> k) & 1) << (top - k);
+            for (int k = 0; k < bits; k++) {
+                turned |= ((number >>> k) & 1) << (bits - 1 - k);
             }
             return turned;
         }
 
-        /** Joins the truths of a function pair by pair, bit by bit from the lowest on. */
-        private int fold(int function) {
-            for (int choice = 0; choice < CHOICES; choice++) {
-                layer[choice] = (int) (truths[choice] >>> function) & 1;
+        private int truth(int function, int state, int onInputs, Atlas atlas) {
+            int cell = Atlas.cell(state, onInputs);
+            if (!atlas.reaches(state) || atlas.follows[cell] == NONE) {
+                return 0;
             }
-            for (int b = 0; b < BITS; b++) {
-                for (int j = 0; j < CHOICES >> (b + 1); j++) {
-                    layer[j] = multiplexer(b, layer[2 * j], layer[2 * j + 1]);
-                }
+            if (function < outputs) {
+                return (atlas.emits[cell] >>> function) & 1;
             }
-            return layer[0];
+            boolean ends = atlas.follows[cell] == END_STATE;
+            if (function == functions - 1) {
+                return ends ? 1 : 0;
+            }
+            return ends ? 0 : (atlas.follows[cell] >>> (function - outputs)) & 1;
         }
 
         private int multiplexer(int atLevel, int zero, int one) {
