@@ -480,10 +480,18 @@ public final class SignalEngine {
             from = to;
             if (from >= text.length) {
                 token = Token.STOP;
-            } else if (isLetter(text[from])) {
-                takeWord();
-            } else {
-                takeMark();
+                return;
+            }
+            while (to < text.length && isInWord(text[to])) {
+                to++;
+            }
+            boolean word = to > from;
+            if (!word) {
+                to += startsBars() ? 2 : 1;
+            }
+            token = known(word && isName() ? Token.NAME : Token.STOP);
+            if (token == Token.STOP) {
+                refuse(1);
             }
         }
 
@@ -503,50 +511,32 @@ public final class SignalEngine {
             }
         }
 
-        private static boolean isLetter(int c) {
-            return (c >= 'a' && c <= 'z') || (c >= 'A' && c <= 'Z');
-        }
-
         private static boolean isInWord(int c) {
-            return isLetter(c) || (c >= '0' && c <= '9') || c == '_';
+            return (c >= 'a' && c <= 'z') || (c >= 'A' && c <= 'Z') || (c >= '0' && c <= '9') || c == '_';
         }
 
-        private void takeWord() {
-            while (to < text.length && isInWord(text[to])) {
-                to++;
-            }
-            require(to - from <= LONGEST_WORD);
-            token = known(Token.NAME);
+        /** Whether a run of characters of words is a word: its first one has to be a letter. */
+        private boolean isName() {
+            return text[from] > '9' && text[from] != '_' && to - from <= LONGEST_WORD;
         }
 
-        private void takeMark() {
-            to++;
-            if (text[from] == '|' && to < text.length && text[to] == '|') {
-                to++;
-            }
-            token = known(Token.STOP);
-            require(token != Token.STOP);
+        private boolean startsBars() {
+            return text[from] == '|' && from + 1 < text.length && text[from + 1] == '|';
         }
 
+        /** The token that reads as the text here does, or another one if there is none. */
         private Token known(Token other) {
-            for (int i = 0; i < TOKENS.length; i++) {
-                if (is(TOKENS[i].text)) {
-                    return TOKENS[i];
+            for (int t = 0; t < TOKENS.length; t++) {
+                String due = TOKENS[t].text;
+                int same = 0;
+                while (same < due.length() && from + same < to && due.charAt(same) == text[from + same]) {
+                    same++;
+                }
+                if (same == due.length() && from + same == to) {
+                    return TOKENS[t];
                 }
             }
             return other;
-        }
-
-        private boolean is(String word) {
-            if (word.length() != to - from) {
-                return false;
-            }
-            for (int i = 0; i < word.length(); i++) {
-                if (word.charAt(i) != text[from + i]) {
-                    return false;
-                }
-            }
-            return true;
         }
     }
 
@@ -829,7 +819,8 @@ public final class SignalEngine {
         private Node takeEvery(int line) {
             int test = takeEither();
             take(Token.DO);
-            return draft.every(takeBody(), test, line);
+            Node loop = draft.loopEach(takeBody(), test, line);
+            return draft.join(SEQUENCE, draft.await(test, line), loop, line);
         }
 
         private Node takeGuarded(Token word, int line) {
@@ -839,10 +830,12 @@ public final class SignalEngine {
             Node body = takeBody();
             take(Token.WHEN);
             int test = takeEither();
-            if (word == Token.SUSPEND) {
-                return draft.tested(SUSPEND, test, body, null, line);
+            if (word == Token.WEAK) {
+                return draft.abort(body, draft.watch(test, line), line);
             }
-            return draft.abort(body, test, word == Token.WEAK, line);
+            Node suspend = draft.tested(SUSPEND, test, body, null, line);
+            return word == Token.SUSPEND ? suspend
+                    : draft.abort(suspend, draft.watch(test, line), line);
         }
 
         private int takeEither() {
@@ -995,8 +988,9 @@ public final class SignalEngine {
         }
 
         Node leaf(int kind, int number, int line) {
-            Node made = join(kind, null, null, line);
+            Node made = new Node(kind, line, null, null);
             made.number = number;
+            nodes.add(made);
             return made;
         }
 
@@ -1029,10 +1023,11 @@ public final class SignalEngine {
         }
 
         /** The loop that leaves the trap next around it, which has no name, when the test is true. */
-        private Node watch(int test, int line) {
+        Node watch(int test, int line) {
             Node pause = leaf(PAUSE, NONE, line);
             Node leave = leaf(EXIT, INNERMOST, line);
-            Node look = tested(PRESENT, test, leave, leaf(NOTHING, NONE, line), line);
+            Node look = join(PRESENT, leave, leaf(NOTHING, NONE, line), line);
+            look.test = test;
             return join(LOOP, join(SEQUENCE, pause, look, line), null, line);
         }
 
@@ -1040,20 +1035,15 @@ public final class SignalEngine {
             return join(TRAP, watch(test, line), null, line);
         }
 
-        Node abort(Node body, int test, boolean weak, int line) {
-            Node run = weak ? body : tested(SUSPEND, test, body, null, line);
+        Node abort(Node run, Node watch, int line) {
             Node left = join(SEQUENCE, run, leaf(EXIT, INNERMOST, line), line);
-            return join(TRAP, join(BOTH, left, watch(test, line), line), null, line);
+            return join(TRAP, join(BOTH, left, watch, line), null, line);
         }
 
         Node loopEach(Node body, int test, int line) {
             Node stays = join(SEQUENCE, body, halt(line), line);
-            return join(LOOP, abort(stays, test, false, line), null, line);
-        }
-
-        Node every(Node body, int test, int line) {
-            Node loop = loopEach(body, test, line);
-            return join(SEQUENCE, await(test, line), loop, line);
+            Node suspend = tested(SUSPEND, test, stays, null, line);
+            return join(LOOP, abort(suspend, watch(test, line), line), null, line);
         }
 
         /** Finds out what depends on the whole tree: places, weights and codes. */
@@ -1390,7 +1380,8 @@ public final class SignalEngine {
                 } else {
                     int done = n;
                     n = program.parent[n];
-                    child = starting ? goOnStart(n, done) : goOnResume(n, done);
+                    child = done == startedBehind ? comeBack(n, done)
+                            : starting ? goOnStart(n, done) : goOnResume(n, done);
                 }
             }
         }
@@ -1481,9 +1472,6 @@ public final class SignalEngine {
 
         /** What is started next within a node, one of which is done; NONE if it has its answer. */
         private int goOnStart(int n, int done) {
-            if (done == startedBehind) {
-                return comeBack(n, done);
-            }
             int other = program.second[n];
             switch (program.kind[n]) {
                 case PRESENT:
@@ -1702,7 +1690,7 @@ public final class SignalEngine {
             steady = 0;
             doubtState = NONE;
             meet(FIRST_STATE, NONE, NONE);
-            for (int i = 0; i < reached; i++) {
+            for (int i = 0; i < reached && i < STATES; i++) {
                 tryAll(order[i], program, reactor, held);
             }
             sortOut();
@@ -1943,10 +1931,12 @@ public final class SignalEngine {
                 return zero;
             }
             int head = (atLevel + 31 * zero + 1009 * one) & (HEADS - 1);
-            for (int i = heads[head]; i != NONE; i = chain[i]) {
+            int i = heads[head];
+            for (int steps = 0; i != NONE && steps < made; steps++) {
                 if (bit[i] == atLevel && low[i] == zero && high[i] == one) {
                     return i;
                 }
+                i = chain[i];
             }
             return add(atLevel, zero, one, head);
         }
