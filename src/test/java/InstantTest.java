@@ -162,6 +162,8 @@ final class InstantTest {
         runs("out a,b;suspend pause;emit a when b end||pause;emit b", row(0, 0, 0, 3), row(0, 0, 2, 1), row(0, 1, 1, 0));
         runs("out a;suspend pause;emit a when a end", row(0, 0, 0, 1), row(0, 2));
         runs("out a,b;suspend pause;emit a when b end||pause;present a then emit b end", row(0, 0, 0, 3), row(0, 2));
+        runs("out x;trap T in trap U in suspend pause;exit T when x end||pause;exit U end;emit x end",
+                row(0, 0, 0, 3), row(0, 2));
         runs("in i;suspend pause||pause;pause when i end", row(0, 0, 0, 3), row(0, 0, 0, 4), row(1, 0, 0, 4), row(0, 1, 0, 0));
     }
 
@@ -316,6 +318,9 @@ final class InstantTest {
         CHECK.equal("200 pauses", y.instant(0), 0);
         CHECK.equal("selected", y.count(12), 200);
         CHECK.holds("selected(199)", y.selected(199));
+        CHECK.equal("restart()", y.restart(), 1);
+        CHECK.equal("no pause at the start", y.count(12), 0);
+        CHECK.equal("200 pauses again", y.instant(0), 0);
         CHECK.equal("their end", y.instant(0), 1);
         StringBuilder chain = new StringBuilder("out a;signal " + names("s", 140) + " in present s0 then emit a end");
         for (int i = 1; i < 140; i++) {

@@ -8,6 +8,7 @@ final class NetTest {
         oneInput();
         sharing();
         inputsAndPauses();
+        allBits();
         choices();
         again();
         CHECK.finish();
@@ -104,6 +105,23 @@ final class NetTest {
         CHECK.equal("pause 2 to the end", x.pass(512), 16);
         CHECK.equal("pauses 0 and 1", x.pass(2048 + 1024), 0);
         CHECK.equal("no pause at all", x.pass(15), 0);
+    }
+
+    /** Eight pauses and four inputs: each choice with a reachable state says what next() says. */
+    private static void allBits() {
+        SignalEngine x = CHECK.reads("in a,b,c,d;out p;await a||await b||await c||await d||await a and b"
+                + "||await c and d||await a and c;emit p||await b and d");
+        int states = x.explore();
+        CHECK.holds("many states: " + states, states > 20);
+        x.lay();
+        for (int choice = 0; choice < 8192; choice++) {
+            int state = choice >= 8192 - 4096 && (choice & 4080) == 0 ? 256 : Integer.reverse(choice >> 4) >>> 24;
+            int inputs = Integer.reverse(choice & 15) >>> 28;
+            boolean real = choice < 4096 || state == 256;
+            int then = real ? x.next(state, inputs) : -1;
+            long due = then == -1 ? 0 : x.shows(state, inputs) | (then == 257 ? 512L : (long) then << 1);
+            CHECK.equal("pass(" + choice + ")", x.pass(choice), due);
+        }
     }
 
     private static void choices() {

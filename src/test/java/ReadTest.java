@@ -62,6 +62,9 @@ final class ReadTest {
         fault("pause\n\n\u0001", 1, 3);
         fault("pause\u007f", 1, 1);
         fault("pause %\u0080", 1, 1);
+        fault("pause %\u007f", 1, 1);
+        fault("pause %\u001f", 1, 1);
+        fault("pause %\n\u0008", 1, 2);
         fault("pause %\n%\u00e9", 1, 2);
         fault("pause\r\n", 1, 1);
         fault("pause\u000b", 1, 1);

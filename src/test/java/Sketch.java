@@ -43,7 +43,7 @@ final class Sketch {
         random = new Random(seed);
         this.locals = locals;
         left = size;
-        inputs = random.nextInt(4);
+        inputs = random.nextInt(5);
         outputs = random.nextInt(4);
         List<String> pool = new ArrayList<>(List.of(POOL));
         for (int k = 0; k < inputs + outputs; k++) {
