@@ -2,6 +2,8 @@ import java.nio.charset.StandardCharsets;
 
 /** What all tests share: comparing answers, counting wrong ones, and feeding texts. */
 final class Check {
+    private static final int PRINTED = 100;
+
     private final String name;
     private int asked;
     private int wrong;
@@ -14,6 +16,8 @@ final class Check {
         asked++;
         if (answer != due) {
             wrong++;
+        }
+        if (answer != due && wrong <= PRINTED) {
             System.out.println(name + ": " + what + " answers " + answer + ", due is " + due);
         }
     }

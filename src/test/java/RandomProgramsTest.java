@@ -19,7 +19,7 @@ final class RandomProgramsTest {
             if (seed % 10 == 0) {
                 engine = new SignalEngine();
             }
-            compare(seed, new Sketch(seed, 6 + seed % 50, 1 + seed % 4), engine);
+            compare(seed, new Sketch(seed, 6 + seed % 50, 1 + seed % 4, seed % 2 == 1), engine);
         }
         System.out.println("programs without a fault " + read + ", loops without an instant " + loopFaults
                 + ", explored " + explored + ", with doubts " + doubts);
@@ -215,7 +215,7 @@ final class RandomProgramsTest {
         for (int v = -1; v <= 13; v++) {
             CHECK.equal(mark + "level(" + v + ")", x.level(v), v < 0 || v > 12 ? 0 : all.get(12 - v).size());
         }
-        for (int i = -1; i <= sizes.length; i++) {
+        for (int i = sizes.length; i >= -1; i--) {
             CHECK.equal(mark + "size(" + i + ")", x.size(i), i < 0 || i == sizes.length ? -1 : sizes[i]);
         }
         for (int choice = 0; choice < truths.length; choice++) {

@@ -26,6 +26,7 @@ final class Sketch {
 
     private final Random random;
     private final int locals;
+    private final boolean knotted;
     private final List<String> names = new ArrayList<>();
     private final List<Integer> scope = new ArrayList<>();
     private final List<Object> trapScope = new ArrayList<>();
@@ -38,19 +39,23 @@ final class Sketch {
 
     final Kernel kernel;
 
-    /** size: how many statements there are at most, more or less; locals: how many may be nested. */
-    Sketch(long seed, int size, int locals) {
+    /**
+     * size: how many statements there are at most, more or less; locals: how many may be nested;
+     * knotted: whether it has above all loops, traps and local signals, one within the other.
+     */
+    Sketch(long seed, int size, int locals, boolean knotted) {
         random = new Random(seed);
         this.locals = locals;
+        this.knotted = knotted;
         left = size;
-        inputs = random.nextInt(5);
+        inputs = random.nextInt(knotted ? 3 : 5);
         outputs = random.nextInt(4);
         List<String> pool = new ArrayList<>(List.of(POOL));
         for (int k = 0; k < inputs + outputs; k++) {
             scope.add(names.size());
             names.add(pool.remove(random.nextInt(pool.size())));
         }
-        Statement body = statement(5, 0);
+        Statement body = knotted ? knot() : statement(5, 0);
         printList("in", 0, inputs);
         printList("out", inputs, inputs + outputs);
         print(body, 0);
@@ -89,10 +94,18 @@ final class Sketch {
         return found.isEmpty() ? -1 : found.get(random.nextInt(found.size()));
     }
 
+    /** Knotted programs above all test and emit their local signals. */
+    private int local() {
+        int signal = knotted && !scope.isEmpty() && random.nextInt(4) != 0
+                ? scope.get(scope.size() - 1 - random.nextInt(Math.min(2, scope.size()))) : -1;
+        return signal >= inputs && visible(names.get(signal)) == signal ? signal : -1;
+    }
+
     private Kernel.Test test(int depth) {
         int pick = depth == 0 ? 0 : random.nextInt(7);
         if (pick >= 4 || pick == 0) {
-            int signal = some(0);
+            int signal = local();
+            signal = signal == -1 ? some(0) : signal;
             return new Kernel.Test(0, signal, names.get(signal), null, null);
         }
         return new Kernel.Test(pick, -1, null, test(depth - 1), pick == 1 ? null : test(depth - 1));
@@ -102,6 +115,9 @@ final class Sketch {
         left--;
         if (depth == 0 || left <= 0) {
             return small();
+        }
+        if (knotted) {
+            return knottedStatement(depth, nested);
         }
         int pick = random.nextInt(22);
         if (pick <= 2) {
@@ -146,6 +162,42 @@ final class Sketch {
         return made;
     }
 
+    /** A loop around local signals, or the other way round, at the outside of all. */
+    private Statement knot() {
+        Statement made = new Statement("loop");
+        made.first = new Statement(random.nextBoolean() ? ";" : "||");
+        made.first.first = signal(7, 0);
+        made.first.second = new Statement("pause");
+        return made;
+    }
+
+    private Statement knottedStatement(int depth, int nested) {
+        int pick = random.nextInt(20);
+        if (pick <= 3) {
+            return two(";", depth, nested);
+        }
+        if (pick <= 7) {
+            return two("||", depth, nested);
+        }
+        if (pick <= 9) {
+            return nested < locals ? signal(depth, nested) : small();
+        }
+        if (pick <= 11) {
+            return trap(depth, nested);
+        }
+        Statement made = new Statement(pick <= 14 ? "loop" : pick == 15 ? "suspend" : "present");
+        if (pick <= 14) {
+            made.first = new Statement(";");
+            made.first.first = statement(depth - 1, nested);
+            made.first.second = random.nextInt(4) == 0 ? statement(depth - 1, nested) : new Statement("pause");
+            return made;
+        }
+        made.test = test(random.nextInt(2));
+        made.first = statement(depth - 1, nested);
+        made.second = pick <= 17 ? null : statement(depth - 1, nested);
+        return made;
+    }
+
     private Statement two(String word, int depth, int nested) {
         Statement made = new Statement(word);
         made.first = statement(depth - 1, nested);
@@ -185,7 +237,8 @@ final class Sketch {
 
     private Statement small() {
         int pick = random.nextInt(14);
-        int signal = some(inputs);
+        int signal = local();
+        signal = signal == -1 ? some(inputs) : signal;
         if (pick <= 4 && signal != -1) {
             Statement made = new Statement(pick == 0 ? "sustain" : "emit");
             made.signal = signal;
