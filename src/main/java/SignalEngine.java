@@ -1839,10 +1839,10 @@ public final class SignalEngine {
     private static final class Net {
         private static final int BITS = 13;
         private static final int CHOICES = 8192;
-        private static final int FIRST_CHOICE = 4096;
+        private static final int HALF = 4096;
         private static final int HEADS = 4096;
 
-        private final int[] layer = new int[FIRST_CHOICE];
+        private final int[] layer = new int[HALF];
         private final int[] heads = new int[HEADS];
         private final int[] atBit = new int[BITS];
         private final int[] roots = new int[64];
