@@ -5,11 +5,17 @@ final class Check {
     private static final int PRINTED = 100;
 
     private final String name;
+    private String sentence = "";
     private int asked;
     private int wrong;
 
     Check(String name) {
         this.name = name;
+    }
+
+    /** Says to which promise and which sentence of it the answers belong that are asked from here on. */
+    void about(String promiseAndSentence) {
+        sentence = promiseAndSentence + ": ";
     }
 
     void equal(String what, long answer, long due) {
@@ -18,8 +24,12 @@ final class Check {
             wrong++;
         }
         if (answer != due && wrong <= PRINTED) {
-            System.out.println(name + ": " + what + " answers " + answer + ", due is " + due);
+            System.out.println(name + ": " + sentence + what + " answers " + answer + ", due is " + due);
         }
+    }
+
+    void none(String what, long answer) {
+        equal(what, answer, SignalEngine.NONE);
     }
 
     void holds(String what, boolean answer) {
@@ -32,6 +42,21 @@ final class Check {
 
     void refusesArgument(String what, Runnable call) {
         equal(what + " (2: IllegalArgumentException)", thrownBy(call), 2);
+    }
+
+    /** As above, and all that the engine answers stays as it was. */
+    void refusesState(String what, SignalEngine engine, Runnable call) {
+        unchanged(what, engine, () -> refusesState(what, call));
+    }
+
+    void refusesArgument(String what, SignalEngine engine, Runnable call) {
+        unchanged(what, engine, () -> refusesArgument(what, call));
+    }
+
+    void unchanged(String what, SignalEngine engine, Runnable call) {
+        String before = Picture.of(engine);
+        call.run();
+        holds(what + " changes nothing", Picture.of(engine).equals(before));
     }
 
     private static int thrownBy(Runnable call) {
@@ -79,11 +104,32 @@ final class Check {
         return engine.read();
     }
 
+    /** The fault is due in that line when a new engine reads the text; 0, 0 for none. */
+    void fault(String text, int kind, int line) {
+        equal("read() of " + shortened(text), fault(text), kind + 8L * line);
+    }
+
+    void good(String text) {
+        fault(text, 0, 0);
+    }
+
+    private static String shortened(String text) {
+        String shown = text.length() <= 300 ? text : text.substring(0, 300) + " ..";
+        return shown.replace("\n", "\\n");
+    }
+
     /** An engine that has read a text; the answer of read() is due to be 0. */
     SignalEngine reads(String text) {
         SignalEngine engine = new SignalEngine();
         feed(engine, text);
-        equal("read() of " + text, engine.read(), 0);
+        equal("read() of " + shortened(text), engine.read(), 0);
+        return engine;
+    }
+
+    /** An engine that has read and explored a text with so many reachable states. */
+    SignalEngine explores(String text, int states) {
+        SignalEngine engine = reads(text);
+        equal("explore() of " + shortened(text), engine.explore(), states);
         return engine;
     }
 }

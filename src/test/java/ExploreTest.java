@@ -37,8 +37,7 @@ final class ExploreTest {
     }
 
     private static SignalEngine explored(String text, int states) {
-        SignalEngine x = CHECK.reads(text);
-        CHECK.equal("explore() of " + text, x.explore(), states);
+        SignalEngine x = CHECK.explores(text, states);
         CHECK.equal("count(13) of " + text, x.count(13), states);
         return x;
     }
@@ -68,10 +67,6 @@ final class ExploreTest {
         CHECK.equal("it stays ended", y.count(11), 2);
     }
 
-    private static String row(String part, String between, int many) {
-        return part + (between + part).repeat(many - 1);
-    }
-
     private static void tooLarge(String text) {
         SignalEngine x = CHECK.reads(text);
         CHECK.equal("explore() of " + text, x.explore(), -1);
@@ -83,19 +78,19 @@ final class ExploreTest {
     }
 
     private static void limits() {
-        explored(row("pause", ";", 8), 9);
-        tooLarge(row("pause", ";", 9));
+        explored(Texts.row("pause", ";", 8), 9);
+        tooLarge(Texts.row("pause", ";", 9));
         explored("in a,b,c,d;await a and b and c and d", 2);
         tooLarge("in a,b,c,d,e;await a");
-        explored("in a;present not not " + row("a", " or ", 149) + " then nothing end", 1);
-        explored("in a;present not not " + row("a", " and ", 149) + " then nothing end;present a then nothing end", 1);
-        tooLarge("in a;present not " + row("a", " or ", 150) + " then nothing end;present a then nothing end");
-        explored("nothing||" + row("nothing", ";", 100), 1);
-        tooLarge("trap T in nothing||" + row("nothing", ";", 100) + " end");
-        SignalEngine x = CHECK.reads("in a;present not " + row("a", " or ", 150) + " then nothing end");
+        explored("in a;present not not " + Texts.row("a", " or ", 149) + " then nothing end", 1);
+        explored("in a;present not not " + Texts.row("a", " and ", 149) + " then nothing end;present a then nothing end", 1);
+        tooLarge("in a;present not " + Texts.row("a", " or ", 150) + " then nothing end;present a then nothing end");
+        explored("nothing||" + Texts.row("nothing", ";", 100), 1);
+        tooLarge("trap T in nothing||" + Texts.row("nothing", ";", 100) + " end");
+        SignalEngine x = CHECK.reads("in a;present not " + Texts.row("a", " or ", 150) + " then nothing end");
         CHECK.equal("300 pieces", x.count(1), 300);
         CHECK.equal("explore()", x.explore(), 1);
-        SignalEngine y = CHECK.reads("nothing||" + row("nothing", ";", 100));
+        SignalEngine y = CHECK.reads("nothing||" + Texts.row("nothing", ";", 100));
         CHECK.equal("weights of 300", y.count(6), 300);
     }
 

@@ -218,19 +218,11 @@ final class InstantTest {
         CHECK.equal("count(10)", x.count(10), 2);
         SignalEngine y = CHECK.reads("nothing");
         CHECK.refusesArgument("instant(1) without inputs", () -> y.instant(1));
-        SignalEngine z = CHECK.reads("in " + names("i", 31) + ";out o;present i30 then emit o end");
+        SignalEngine z = CHECK.reads("in " + Texts.names("i", 31) + ";out o;present i30 then emit o end");
         CHECK.refusesArgument("instant(MIN)", () -> z.instant(Integer.MIN_VALUE));
         CHECK.equal("instant(MAX)", z.instant(Integer.MAX_VALUE), 1);
         CHECK.equal("status(31)", z.status(31), 1);
         CHECK.equal("status(30)", z.status(30), 1);
-    }
-
-    private static String names(String start, int many) {
-        StringBuilder names = new StringBuilder();
-        for (int i = 0; i < many; i++) {
-            names.append(i == 0 ? "" : ",").append(start).append(i);
-        }
-        return names.toString();
     }
 
     private static void statuses() {
@@ -322,7 +314,7 @@ final class InstantTest {
         CHECK.equal("no pause at the start", y.count(12), 0);
         CHECK.equal("200 pauses again", y.instant(0), 0);
         CHECK.equal("their end", y.instant(0), 1);
-        StringBuilder chain = new StringBuilder("out a;signal " + names("s", 140) + " in present s0 then emit a end");
+        StringBuilder chain = new StringBuilder("out a;signal " + Texts.names("s", 140) + " in present s0 then emit a end");
         for (int i = 1; i < 140; i++) {
             chain.append("||present s").append(i).append(" then emit s").append(i - 1).append(" end");
         }

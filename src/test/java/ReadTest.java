@@ -19,15 +19,15 @@ final class ReadTest {
     }
 
     private static void fault(String text, int kind, int line) {
-        CHECK.equal("read() of " + text, Check.fault(text), kind + 8 * line);
+        CHECK.fault(text, kind, line);
     }
 
     private static void good(String text) {
-        fault(text, 0, 0);
+        CHECK.good(text);
     }
 
     private static String times(String part, int many) {
-        return part.repeat(many);
+        return Texts.times(part, many);
     }
 
     private static void wellFormed() {
@@ -206,7 +206,7 @@ final class ReadTest {
 
     /** A pause in so many brackets, each of which is a statement. */
     private static String pauseIn(int brackets) {
-        return times("(", brackets) + "pause" + times(")", brackets);
+        return Texts.bracketed("pause", brackets);
     }
 
     private static void open() {
@@ -265,8 +265,8 @@ final class ReadTest {
         fault("loop nothing end;\nemit b", 2, 2);
         fault("loop nothing end;\npause;", 1, 2);
         fault("trap T in loop nothing end end;\n" + pauseIn(24), 5, 2);
-        fault("in " + manyNames("i", 32) + ";\nloop nothing end", 4, 2);
-        fault("in " + manyNames("i", 32) + ";\nemit b", 2, 2);
+        fault("in " + Texts.names("i", 32) + ";\nloop nothing end", 4, 2);
+        fault("in " + Texts.names("i", 32) + ";\nemit b", 2, 2);
     }
 
     private static void loops() {
@@ -301,47 +301,35 @@ final class ReadTest {
         fault(times("trap T in ", 20) + "\nloop trap U in exit U end end" + times(" end", 20), 4, 2);
     }
 
-    private static String manyNames(String start, int many) {
-        StringBuilder names = new StringBuilder();
-        for (int i = 0; i < many; i++) {
-            names.append(i == 0 ? "" : ",").append(start).append(i);
-        }
-        return names.toString();
-    }
-
-    private static String row(String part, String between, int many) {
-        return part + times(between + part, many - 1);
-    }
-
     private static void tooLarge(String text) {
         fault(text, 6, 0);
     }
 
     private static void limits() {
-        good("in " + manyNames("i", 31) + ";out " + manyNames("o", 31) + ";nothing");
-        tooLarge("in " + manyNames("i", 32) + ";nothing");
-        tooLarge("out " + manyNames("o", 32) + ";nothing");
-        good("signal " + manyNames("s", 400) + " in nothing end");
-        tooLarge("signal " + manyNames("s", 401) + " in nothing end");
-        good("in a;out b;signal " + manyNames("s", 398) + " in nothing end");
-        tooLarge("in a;out b;signal " + manyNames("s", 399) + " in nothing end");
-        good(row("pause", ";", 200));
-        tooLarge(row("pause", ";", 201));
-        good(row("halt", "||", 200));
-        tooLarge(row("halt", "||", 201));
-        good("in a;present not " + row("a", " or ", 500) + " then nothing end");
-        tooLarge("in a;present not not " + row("a", " or ", 500) + " then nothing end");
-        good("in a;abort nothing when " + row("a", " and ", 250) + " end");
-        tooLarge("in a;abort nothing when not not not " + row("a", " and ", 250) + " end");
+        good("in " + Texts.names("i", 31) + ";out " + Texts.names("o", 31) + ";nothing");
+        tooLarge("in " + Texts.names("i", 32) + ";nothing");
+        tooLarge("out " + Texts.names("o", 32) + ";nothing");
+        good("signal " + Texts.names("s", 400) + " in nothing end");
+        tooLarge("signal " + Texts.names("s", 401) + " in nothing end");
+        good("in a;out b;signal " + Texts.names("s", 398) + " in nothing end");
+        tooLarge("in a;out b;signal " + Texts.names("s", 399) + " in nothing end");
+        good(Texts.row("pause", ";", 200));
+        tooLarge(Texts.row("pause", ";", 201));
+        good(Texts.row("halt", "||", 200));
+        tooLarge(Texts.row("halt", "||", 201));
+        good("in a;present not " + Texts.row("a", " or ", 500) + " then nothing end");
+        tooLarge("in a;present not not " + Texts.row("a", " or ", 500) + " then nothing end");
+        good("in a;abort nothing when " + Texts.row("a", " and ", 250) + " end");
+        tooLarge("in a;abort nothing when not not not " + Texts.row("a", " and ", 250) + " end");
         good(times("trap T in ", 8) + "exit T" + times(" end", 8));
         tooLarge(times("trap T in ", 9) + "exit T" + times(" end", 9));
         good("in a;" + times("abort ", 8) + "nothing" + times(" when a end", 8));
         tooLarge("in a;" + times("abort ", 9) + "nothing" + times(" when a end", 9));
         good("in a;" + times("trap T in ", 7) + "await a" + times(" end", 7));
         tooLarge("in a;" + times("trap T in ", 8) + "await a" + times(" end", 8));
-        good("nothing||" + row("nothing", ";", 400));
-        tooLarge("trap T in nothing||" + row("nothing", ";", 400) + " end");
-        tooLarge(row("nothing", ";", 1200));
+        good("nothing||" + Texts.row("nothing", ";", 400));
+        tooLarge("trap T in nothing||" + Texts.row("nothing", ";", 400) + " end");
+        tooLarge(Texts.row("nothing", ";", 1200));
     }
 
     private static void whatReadingChanges() {
