@@ -21,7 +21,11 @@ final class InstantEdgesTest {
         goThrows();
         goToAll();
         goIsAStart();
+        truthsOfKnown();
         truthsOfUnknown();
+        starting();
+        resuming();
+        suspending();
         whatMakesAReaction();
         localSignalsAskedAnew();
         startedAnewInALoop();
@@ -377,6 +381,17 @@ final class InstantEdgesTest {
         CHECK.equal("count(10)", y.count(10), 1);
     }
 
+    private static void truthsOfKnown() {
+        CHECK.about("terms, instant: a signal is true or false as it is present or absent; not, and, or");
+        String[] tests = {"i", "j", "not i", "i and j", "i or j"};
+        int[][] due = {{0, 1, 0, 1}, {0, 0, 1, 1}, {1, 0, 1, 0}, {0, 0, 0, 1}, {0, 1, 1, 1}};
+        for (int t = 0; t < tests.length; t++) {
+            for (int inputs = 0; inputs < 4; inputs++) {
+                runs("in i,j;out o;present " + tests[t] + " then emit o end", row(inputs, 1, due[t][inputs], 0));
+            }
+        }
+    }
+
     private static void truthsOfUnknown() {
         CHECK.about("terms, instant: an or with one that is true is true, whatever else is unknown");
         runs("in i;out o;present i or o else emit o end", row(1, 1, 0, 0));
@@ -395,6 +410,66 @@ final class InstantEdgesTest {
         runs("out o;present o and not o then emit o end", row(0, 2, 0, 0));
         runs("in i;out o;present not(i or o)then emit o end", row(1, 1, 0, 0));
         runs("in i;out o;present not(i and o)else emit o end", row(0, 1, 0, 0));
+    }
+
+    private static void starting() {
+        CHECK.about("terms, starting: present: if its E is not known, both can, not for sure");
+        runs("out o,p;present o then emit p else emit p end;present p then emit o end", row(0, 2, 0, 0));
+        runs("out o,p;present o then emit p else emit p end", row(0, 1, 2, 0));
+        CHECK.about("terms, starting: sequence: the second one starts for sure, if the first one must end with 0");
+        runs("out o,p;emit o;emit p;present p then nothing end", row(0, 1, 3, 0));
+        CHECK.about("terms, starting: sequence: else, if it can, not for sure");
+        runs("out o;present o then pause end;emit o", row(0, 2, 0, 0));
+        CHECK.about("terms, starting: sequence: if it can't, not at all");
+        runs("out o,p;trap T in exit T;emit o end;present o else emit p end", row(0, 1, 2, 0));
+        runs("out o,p;(pause;emit o)||present o else emit p end", row(0, 0, 2, 1), row(0, 1, 1, 0));
+        CHECK.about("terms, starting: both: the greater code, if both have one that must be");
+        runs("out o;(nothing||nothing);emit o", row(0, 1, 1, 0));
+        runs("out o;(nothing||pause);emit o", row(0, 0, 0, 1), row(0, 1, 1, 0));
+        runs("out o;(present o then nothing end||nothing);emit o", row(0, 2, 0, 0));
+        runs("out o;(nothing||present o then nothing end);emit o", row(0, 2, 0, 0));
+        CHECK.about("terms, starting: trap: 0 in place of 2, 1 less for greater codes");
+        runs("out o,p;trap T in trap U in exit U end;emit o end;emit p", row(0, 1, 3, 0));
+        runs("out o,p;trap T in trap U in exit T end;emit o end;emit p", row(0, 1, 2, 0));
+        runs("out o,p;trap T in trap U in exit T||exit U end;emit o end;emit p", row(0, 1, 2, 0));
+        runs("out o,p;trap T in trap U in pause end;emit o end;emit p", row(0, 0, 0, 1), row(0, 1, 3, 0));
+    }
+
+    private static void resuming() {
+        CHECK.about("terms, resuming: a selected pause ends with 0");
+        runs("out o;pause;emit o", row(0, 0, 0, 1), row(0, 1, 1, 0));
+        CHECK.about("terms, resuming: sequence: if pauses of the first one are selected, that resumes; else the second");
+        runs("out o,p;pause;emit o;(pause;pause);emit p", row(0, 0, 0, 1), row(0, 0, 1, 2), row(0, 0, 0, 4), row(0, 1, 2, 0));
+        CHECK.about("terms, resuming: present: the one that has selected pauses resumes, whatever its E says then");
+        runs("in i;out o,p;present i then pause;emit o else pause;emit p end", row(1, 0, 0, 1), row(0, 1, 1, 0));
+        runs("in i;out o,p;present i then pause;emit o else pause;emit p end", row(0, 0, 0, 2), row(1, 1, 2, 0));
+        CHECK.about("terms, resuming: both: one without selected pauses has ended (0)");
+        runs("out o;(pause||pause;pause);emit o", row(0, 0, 0, 3), row(0, 0, 0, 4), row(0, 1, 1, 0));
+        runs("out o;(pause;pause||pause);emit o", row(0, 0, 0, 5), row(0, 0, 0, 2), row(0, 1, 1, 0));
+        runs("out o;(nothing||pause);emit o", row(0, 0, 0, 1), row(0, 1, 1, 0));
+        CHECK.about("terms, resuming: loop: when its statement ends with 0, it starts anew");
+        runs("out o,p;loop emit o;pause;emit p end", row(0, 0, 1, 1), row(0, 0, 3, 1), row(0, 0, 3, 1));
+        runs("out o;loop pause;pause;emit o end", row(0, 0, 0, 1), row(0, 0, 0, 2), row(0, 0, 1, 1));
+    }
+
+    private static void suspending() {
+        CHECK.about("terms, resuming: suspend: if its E is true, all in it stays as it is (code 1)");
+        runs("in i;out o;(suspend pause;pause when i end||nothing);emit o", row(1, 0, 0, 1), row(1, 0, 0, 1), row(0, 0, 0, 2),
+                row(1, 0, 0, 2), row(0, 1, 1, 0));
+        runs("in i;trap T in suspend pause when i end end;pause", row(0, 0, 0, 1), row(1, 0, 0, 1), row(0, 0, 0, 2));
+        runs("in i;out o,p;suspend pause;emit o when i end||pause;present o else emit p end", row(0, 0, 0, 3), row(1, 0, 2, 1),
+                row(0, 1, 1, 0));
+        CHECK.about("terms, resuming: suspend: if it is false, its statement resumes");
+        runs("in i;out o;trap T in trap U in suspend pause;exit T when i end||pause;exit U end;emit o end",
+                row(0, 0, 0, 3), row(0, 1, 0, 0));
+        runs("in i;out o;trap T in trap U in suspend pause;exit T when i end||pause;exit U end;emit o end",
+                row(0, 0, 0, 3), row(1, 1, 1, 0));
+        CHECK.about("terms, resuming: suspend: if it is unknown, it can be both, not for sure");
+        runs("out o;suspend pause;emit o when o end", row(0, 0, 0, 1), row(0, 2, 0, 1));
+        runs("out o;suspend pause when o end;emit o", row(0, 0, 0, 1), row(0, 2, 0, 1));
+        runs("out o;trap T in trap U in suspend pause;exit T when o end||pause;exit U end;emit o end",
+                row(0, 0, 0, 3), row(0, 2, 0, 3));
+        runs("out o,p;suspend pause;emit p when o end||pause;present p then emit o end", row(0, 0, 0, 3), row(0, 2, 0, 3));
     }
 
     private static void whatMakesAReaction() {

@@ -6,20 +6,36 @@ import java.util.Set;
 import java.util.TreeMap;
 import java.util.TreeSet;
 
-/** All reachable states of a Kernel, what they do, and the truth functions, found out the slow way. */
+/** All reachable states of a machine, what they do, and the truth functions, found out the slow way. */
 final class Survey {
     static final int FIRST = 256;
     static final int END = 257;
+    static final int NO_REACTION = -1;
 
-    final Kernel kernel;
+    /** What is explored: it says to which state it goes and what it shows there. */
+    interface Machine {
+        int inputs();
+
+        int outputs();
+
+        int pauses();
+
+        /** The next state, END or NO_REACTION. */
+        int next(int state, int inputs);
+
+        /** The outputs that are present then, as bits; asked only where there is a reaction. */
+        int shows(int state, int inputs);
+    }
+
+    final Machine machine;
     final int options;
     final TreeMap<Integer, int[]> next = new TreeMap<>();
     final TreeMap<Integer, int[]> shows = new TreeMap<>();
     final TreeMap<Integer, List<Integer>> path = new TreeMap<>();
 
-    Survey(Kernel kernel) {
-        this.kernel = kernel;
-        options = 1 << kernel.inputs;
+    Survey(Machine machine) {
+        this.machine = machine;
+        options = 1 << machine.inputs();
         path.put(FIRST, new ArrayList<>());
         Set<Integer> layer = new TreeSet<>(Set.of(FIRST));
         while (!layer.isEmpty()) {
@@ -52,21 +68,11 @@ final class Survey {
     }
 
     private void react(int state) {
-        Set<Integer> held = state == FIRST ? null : new TreeSet<>();
-        for (int k = 0; held != null && k < 8; k++) {
-            if ((state >> k & 1) == 1) {
-                held.add(k);
-            }
-        }
         int[] to = new int[options];
         int[] out = new int[options];
         for (int inputs = 0; inputs < options; inputs++) {
-            Kernel.Outcome outcome = kernel.instant(inputs, held);
-            to[inputs] = outcome.answer == 2 ? -1 : outcome.answer == 1 ? END : Kernel.bits(outcome.chosen);
-            out[inputs] = outcome.answer == 2 ? -1 : 0;
-            for (int k = 0; outcome.answer != 2 && k < kernel.outputs; k++) {
-                out[inputs] |= outcome.statuses[kernel.inputs + k] << k;
-            }
+            to[inputs] = machine.next(state, inputs);
+            out[inputs] = to[inputs] == NO_REACTION ? -1 : machine.shows(state, inputs);
         }
         next.put(state, to);
         shows.put(state, out);
@@ -123,7 +129,7 @@ final class Survey {
                     choice |= (inputs >> k & 1) << (3 - k);
                 }
                 long truth = shows.get(state)[inputs];
-                truth |= then == END ? 1L << (kernel.outputs + kernel.pauses) : (long) then << kernel.outputs;
+                truth |= then == END ? 1L << (machine.outputs() + machine.pauses()) : (long) then << machine.outputs();
                 truths[choice] = truth;
             }
         }
@@ -131,7 +137,7 @@ final class Survey {
     }
 
     int functions() {
-        return kernel.outputs + kernel.pauses + 1;
+        return machine.outputs() + machine.pauses() + 1;
     }
 
     /**

@@ -15,6 +15,7 @@ final class TextEdgesTest {
         longestWords();
         asLongAsCanBe();
         reservedWords();
+        noFirstTokens();
         nearlyReservedWords();
         bars();
         oneOrMore();
@@ -192,6 +193,17 @@ final class TextEdgesTest {
             }
         }
         CHECK.equal("words that are no names", Texts.RESERVED.length, 26);
+    }
+
+    private static void noFirstTokens() {
+        CHECK.about("terms, statements: tokens with which no statement begins");
+        String[] tokens = {"in", "out", "then", "else", "end", "when", "each", "not", "and", "or", "do", ";", ",", ")", "||",
+            "o", "T"};
+        for (String token : tokens) {
+            CHECK.fault("out o;trap T in nothing;\n" + token + " nothing) end", 1, 2);
+            CHECK.fault("out o;trap T in nothing||\n" + token + " nothing end end", 1, 2);
+            CHECK.fault("out o;loop\n" + token, 1, 2);
+        }
     }
 
     private static void nearlyReservedWords() {
